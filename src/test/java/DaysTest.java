@@ -5,7 +5,9 @@ final class DaysTest {
     public static void main(String[] args) {
         when();
         most();
+        mostOfOneDay();
         sittings();
+        sittingsOfOneDay();
         refusals();
         DUE.end();
     }
@@ -45,6 +47,44 @@ final class DaysTest {
         x.set(0, 7);
         // 16 ahead, 32, 16 behind: half is enough
         mostIs(x, 100, 0, 360);
+    }
+
+    private static void mostOfOneDay() {
+        int[] days = {0, 10, 180, 350, 360};
+        for (int day : days) {
+            AskewLetters x = Due.with("m1;b00@" + day + "+4;" + (day < 360 ? "s00@" + (day + 1) + ";" : ""));
+            x.stroke(0, 4, 0, 0, 0);
+            mostIs(x, day, day, day);
+            // one day of 20 and 36 of 4
+            whenIs(x, day / 10, 5, 41);
+        }
+    }
+
+    private static void sittingsOfOneDay() {
+        int[] days = {0, 10, 180, 350, 360};
+        for (int day : days) {
+            AskewLetters x = Due.with("m1;b00@" + day + "+4;" + (day < 360 ? "s00@" + (day + 1) + ";" : ""));
+            x.stroke(0, 0, 0, 0, 0);
+            x.stroke(0, 0, 0, 0, 0);
+            x.stroke(0, 4, 0, 0, 0);
+            // at 1: 20 times 20 of the second; at 2: 20 times 20 of the third
+            splitIs(x, 1, 20);
+            x.clear();
+            x.stroke(0, 9, 15, 0, 0);
+            x.stroke(0, 4, 0, 0, 0);
+            // the whole page is 1
+            splitIs(x, 1, 20);
+        }
+        AskewLetters y = Due.with("m1;");
+        y.stroke(0, 9, 15, 0, 0);
+        y.stroke(0, -9, 15, 0, 0);
+        splitIs(y, 1, 1);
+        y.clear();
+        for (int i = 0; i < 30; i++) {
+            y.stroke(i % 10, 0, 0, 0, 0);
+        }
+        // 5 signs ahead and 5 behind
+        splitIs(y, 5, 3200000);
     }
 
     private static void sittings() {

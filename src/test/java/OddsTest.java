@@ -9,6 +9,7 @@ final class OddsTest {
         many();
         against();
         need();
+        needByAHair();
         needOfGreatNumbers();
         needRefusals();
         DUE.end();
@@ -95,6 +96,9 @@ final class OddsTest {
         DUE.is("nicks on 60", x.many(60), 1);
         x.set(0, 4);
         DUE.is("nicks alike, lean is not", x.many(60), 0);
+        x.clear();
+        x.stroke(0, 9, 0, 0, 0);
+        DUE.is("many of a lean that is off by 4", x.many(365), 1);
         DUE.is("many -1", x.many(-1), -4);
         DUE.is("many 366", x.many(366), -6);
         DUE.is("many without machines", new AskewLetters().many(365), 0);
@@ -144,6 +148,19 @@ final class OddsTest {
         DUE.is("need 100", x.need(0, 0, 100), -9);
         DUE.is("need of machine 1", x.need(1, 0, 40), 1);
         DUE.is("need of machine 1, more", x.need(1, 0, 41), -9);
+    }
+
+    private static void needByAHair() {
+        for (int weight = 1; weight <= 99; weight++) {
+            AskewLetters x = Due.with("m" + weight + ";");
+            x.set(1, 0);
+            x.set(2, 1);
+            x.stroke(0, 0, 0, 0, 0);
+            for (int hundredths = 0; hundredths <= 100; hundredths++) {
+                boolean has = 100 * weight >= hundredths * (weight + 2);
+                DUE.is("need " + hundredths + " by " + weight, x.need(0, 365, hundredths), has ? 1 : -9);
+            }
+        }
     }
 
     private static void needOfGreatNumbers() {
