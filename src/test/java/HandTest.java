@@ -1,154 +1,313 @@
 /** Promises 24 to 28: hand, handLike, whose, pale, type. */
 final class HandTest {
-    private static final Due DUE = new Due("HandTest");
-
     public static void main(String[] args) {
-        hands();
-        handLike();
-        whose();
-        pale();
-        type();
-        typeWanders();
-        typeRefusals();
-        DUE.end();
+        Due.run(HandTest.class);
     }
 
-    private static void hands() {
+    static void p24_itsNumberFourAtMost() {
         AskewLetters x = new AskewLetters();
-        DUE.is("hand -1", x.hand(-1), -4);
-        DUE.is("hand least", x.hand(Long.MIN_VALUE), -4);
-        DUE.is("hand of 11 digits", x.hand(10000000000L), -6);
-        DUE.is("hand greatest", x.hand(Long.MAX_VALUE), -6);
         for (int hand = 0; hand < 4; hand++) {
-            DUE.is("hand", x.hand(9999999999L), hand);
+            Due.is("hand", x.hand(hand), hand);
+            Due.is("hands", x.count(4), hand + 1);
         }
-        DUE.is("hand 4", x.hand(0), -6);
-        DUE.is("hand 4 below", x.hand(-1), -4);
-        DUE.is("hands", x.count(4), 4);
+        Due.is("the fifth", x.hand(0), -6);
+        Due.is("hands", x.count(4), 4);
     }
 
-    private static void handLike() {
+    static void p24_forcesAre0To9999999999() {
         AskewLetters x = new AskewLetters();
-        DUE.is("handLike of none", x.handLike(0), -1);
+        Due.is("least", x.hand(0), 0);
+        Due.is("greatest", x.hand(9999999999L), 1);
+        Due.is("below", x.hand(-1), -4);
+        Due.is("above", x.hand(10000000000L), -6);
+        Due.strike(x, 0, 9);
+        Due.is("like of the least", x.handLike(0), 12);
+        Due.is("like of the greatest", x.handLike(1), 2);
+    }
+
+    static void p24_sign0IsTheLowestOf10Digits() {
+        AskewLetters x = Due.with("m1;");
+        x.hand(9876543210L);
+        x.hand(321);
+        x.type(0, 0, 0, 1234567890, 0);
+        x.type(0, 0, 1, 1234567890, 0);
+        int[] small = {1, 0, 0, 0, 0, 0, 0, 0, 3, 2};
+        for (int i = 0; i < 10; i++) {
+            Due.is("force of sign " + x.strokeOf(i, 0), x.strokeOf(i, 4), x.strokeOf(i, 0));
+            Due.is("force by a few digits", x.strokeOf(10 + i, 4), small[i]);
+        }
+    }
+
+    static void p25_sixLessHowFarItsForceIsOffAtLeast1() {
+        int[] dues = {1, 2, 3, 4, 5, 6, 5, 4, 3, 2};
+        for (int force = 0; force <= 9; force++) {
+            AskewLetters x = new AskewLetters();
+            x.hand(50);
+            x.stroke(1, 0, 0, 0, force);
+            Due.is("handLike of 5 by " + force, x.handLike(0), dues[force]);
+        }
+        AskewLetters y = new AskewLetters();
+        y.hand(9);
+        y.stroke(0, 0, 0, 0, 0);
+        Due.is("off by 9", y.handLike(0), 1);
+    }
+
+    static void p25_allTogetherBySum() {
+        AskewLetters x = new AskewLetters();
         x.hand(7000000050L);
-        DUE.is("handLike of an empty page", x.handLike(0), 0);
-        DUE.is("handLike -1", x.handLike(-1), -1);
-        DUE.is("handLike 1", x.handLike(1), -1);
         int[][] strokes = {{1, 5, 6}, {1, 9, 2}, {1, 0, 1}, {9, 8, 5}, {9, 1, 1}, {0, 0, 6}, {2, 5, 1}, {2, 4, 2}};
         int sum = 0;
         for (int[] s : strokes) {
             x.stroke(s[0], 0, 0, 0, s[1]);
             sum += s[2];
-            DUE.is("handLike with " + s[0] + " of " + s[1], x.handLike(0), sum);
+            Due.is("handLike with " + s[0] + " of " + s[1], x.handLike(0), sum);
         }
     }
 
-    private static void whose() {
+    static void p25_eachStrokeNotTheFirstOfItsSignAlone() {
+        AskewLetters x = new AskewLetters();
+        x.hand(0);
+        for (int i = 0; i < 30; i++) {
+            Due.strike(x, i % 10);
+        }
+        Due.is("handLike of 30", x.handLike(0), 180);
+    }
+
+    static void p25_ofAnEmptyPage0() {
+        AskewLetters x = new AskewLetters();
+        x.hand(5);
+        Due.is("handLike", x.handLike(0), 0);
+    }
+
+    static void p26_theHandWithTheGreatest() {
+        AskewLetters x = new AskewLetters();
+        x.hand(1);
+        x.hand(2);
+        x.hand(3);
+        x.hand(9);
+        int[] forces = {1, 2, 3, 9};
+        for (int hand = 0; hand < 4; hand++) {
+            x.clear();
+            x.stroke(0, 0, 0, 0, forces[hand]);
+            Due.is("whose by " + forces[hand], x.whose(), hand);
+        }
+    }
+
+    static void p26_ofSeveralTheLeast() {
         AskewLetters x = new AskewLetters();
         x.stroke(0, 0, 0, 0, 4);
-        DUE.is("whose without hands", x.whose(), -9);
         x.hand(2);
         x.hand(3);
         x.hand(5);
-        DUE.is("whose, of equals the least", x.whose(), 1);
-        x.stroke(0, 0, 0, 0, 9);
-        DUE.is("whose then", x.whose(), 2);
+        Due.is("hands 1 and 2", x.whose(), 1);
         x.clear();
-        DUE.is("whose on an empty page", x.whose(), 0);
+        Due.is("all of an empty page", x.whose(), 0);
     }
 
-    private static void pale() {
+    static void p26_minus9None() {
         AskewLetters x = new AskewLetters();
-        DUE.is("pale of none", x.pale(), -9);
-        x.stroke(9, 0, 0, 0, 9);
-        DUE.is("pale of one", x.pale(), 9);
-        x.stroke(5, 0, 0, 0, 2);
-        x.stroke(5, 0, 0, 0, 3);
+        Due.is("of an empty page", x.whose(), -9);
+        x.stroke(0, 0, 0, 0, 4);
+        Due.is("of a stroke", x.whose(), -9);
+        x.hand(9);
+        Due.is("with a hand", x.whose(), 0);
+    }
+
+    static void p27_theLeastMeanIsNotCut() {
+        AskewLetters x = new AskewLetters();
         x.stroke(4, 0, 0, 0, 3);
         x.stroke(4, 0, 0, 0, 2);
-        x.stroke(4, 0, 0, 0, 2);
-        // 5 by 2 and 7 by 3: cut they were alike, too
-        DUE.is("pale by the mean", x.pale(), 4);
-        x.stroke(5, 0, 0, 0, 0);
-        DUE.is("pale then", x.pale(), 5);
-        x.stroke(3, 0, 0, 0, 5);
+        x.stroke(5, 0, 0, 0, 2);
+        x.stroke(5, 0, 0, 0, 3);
+        x.stroke(5, 0, 0, 0, 2);
+        // 5 by 2 and 7 by 3
+        Due.is("pale", x.pale(), 5);
+    }
+
+    static void p27_theMeanNotTheSumNorTheLeast() {
+        AskewLetters x = new AskewLetters();
+        x.stroke(0, 0, 0, 0, 0);
+        x.stroke(0, 0, 0, 0, 9);
+        x.stroke(1, 0, 0, 0, 3);
+        x.stroke(1, 0, 0, 0, 4);
+        x.stroke(1, 0, 0, 0, 4);
+        // 9 by 2 and 11 by 3
+        Due.is("pale", x.pale(), 1);
+    }
+
+    static void p27_ofSeveralTheLeast() {
+        AskewLetters x = new AskewLetters();
+        x.stroke(7, 0, 0, 0, 1);
+        x.stroke(3, 0, 0, 0, 2);
         x.stroke(3, 0, 0, 0, 0);
-        x.stroke(3, 0, 0, 0, 0);
-        DUE.is("pale, of equals the least", x.pale(), 3);
+        x.stroke(8, 0, 0, 0, 1);
+        Due.is("pale", x.pale(), 3);
+    }
+
+    static void p27_ofSignsOnThePageAlone() {
+        AskewLetters x = new AskewLetters();
+        x.stroke(9, 0, 0, 0, 9);
+        Due.is("the last sign", x.pale(), 9);
+        x.stroke(0, 0, 0, 0, 8);
+        Due.is("the first sign", x.pale(), 0);
+    }
+
+    static void p27_eachStrokeOfEachSign() {
+        AskewLetters x = new AskewLetters();
+        for (int sign = 0; sign < 7; sign++) {
+            x.stroke(sign, 0, 0, 0, 5);
+        }
+        x.stroke(6, 0, 0, 0, 4);
+        Due.is("pale", x.pale(), 6);
+    }
+
+    static void p27_minus9WithoutStrokes() {
+        AskewLetters x = new AskewLetters();
+        Due.is("pale", x.pale(), -9);
+        Due.strike(x, 0);
+        x.clear();
+        Due.is("pale of a cleared page", x.pale(), -9);
     }
 
     private static void strokeIs(AskewLetters x, int i, int... dues) {
         for (int what = 0; what < dues.length; what++) {
-            DUE.is("typed stroke " + i + ", " + what, x.strokeOf(i, what), dues[what]);
+            Due.is("typed stroke " + i + ", " + what, x.strokeOf(i, what), dues[what]);
         }
     }
 
-    private static void type() {
+    static void p28_eachSignOneStrokeMoreTheLowestFirst() {
+        AskewLetters x = Due.with("m1;");
+        x.hand(0);
+        x.stroke(5, 0, 0, 0, 0);
+        Due.is("type", x.type(0, 0, 0, 100703, 77), 7);
+        int[] signs = {5, 3, 0, 7, 0, 0, 1};
+        for (int i = 0; i < signs.length; i++) {
+            Due.is("sign " + i, x.strokeOf(i, 0), signs[i]);
+        }
+        Due.is("one sign more", x.type(0, 0, 0, 1, 77), 8);
+        Due.is("of sign 1", x.strokeOf(7, 0), 1);
+    }
+
+    static void p28_leanNicksDirtAsTheyAreForceOfTheHand() {
         AskewLetters x = Due.with("m1;m1;k0+1;k7-3;b10@50+2;n17@50:1;c13;");
         x.rate(7, 8);
         x.hand(9876543210L);
         x.hand(1234567890L);
-        x.stroke(5, 0, 0, 0, 0);
-        DUE.is("type", x.type(1, 51, 1, 100707, 77), 7);
+        Due.is("type", x.type(1, 51, 1, 107, 77), 3);
         // 51 is of day 2 of the week: cleaned 6 days ago
-        strokeIs(x, 1, 7, 7, 2, 12, 3, 1);
-        strokeIs(x, 2, 0, 13, 0, 6, 0, 1);
-        strokeIs(x, 3, 7, 7, 2, 12, 3, 0);
-        strokeIs(x, 4, 0, 13, 0, 6, 0, 0);
-        strokeIs(x, 5, 0, 13, 0, 6, 0, 0);
-        strokeIs(x, 6, 1, 10, 0, 6, 9, 1);
-        DUE.is("type one more", x.type(0, 0, 0, 9, 0), 8);
-        strokeIs(x, 7, 9, 10, 0, 0, 9, 1);
+        strokeIs(x, 0, 7, 7, 2, 12, 3, 1);
+        strokeIs(x, 1, 0, 13, 0, 6, 0, 1);
+        strokeIs(x, 2, 1, 10, 0, 6, 9, 1);
+        Due.is("type of the other", x.type(0, 0, 0, 79, 0), 5);
+        strokeIs(x, 3, 9, 10, 0, 0, 9, 1);
+        strokeIs(x, 4, 7, 7, 0, 0, 7, 0);
     }
 
-    private static void typeWanders() {
-        AskewLetters x = Due.with("m1;k8+8;k9-9;");
+    static void p28_theDrawIsBelow2TimesWanderAnd1LessWander() {
+        int[][] leans = {{10, 10, 10, 10, 10}, {11, 9, 9, 11, 10}};
+        AskewLetters x = Due.with("m1;");
         x.hand(0);
-        x.set(3, 3);
-        DUE.is("type, seed 5", x.type(0, 0, 0, 1111, 5), 4);
-        int[] five = {7, 9, 7, 8};
-        DUE.is("type, seed -1", x.type(0, 0, 0, 11111, -1), 9);
-        int[] minus = {13, 7, 9, 9, 9};
-        for (int i = 0; i < 9; i++) {
-            DUE.is("wandered " + i, x.strokeOf(i, 1), i < 4 ? five[i] : minus[i - 4]);
+        for (int wander = 0; wander < 2; wander++) {
+            x.set(3, wander);
+            x.type(0, 0, 0, 11111, Integer.MIN_VALUE);
+            for (int i = 0; i < 5; i++) {
+                Due.is("lean by " + wander + " of " + i, x.strokeOf(5 * wander + i, 1), leans[wander][i]);
+            }
         }
-        x.clear();
-        x.set(3, 1);
-        x.type(0, 0, 0, 11111, Integer.MIN_VALUE);
-        int[] one = {11, 9, 9, 11, 10};
+    }
+
+    static void p28_theSeedGoesOnFromStrokeToStroke() {
+        AskewLetters x = Due.with("m1;");
+        x.hand(0);
         x.set(3, 2);
         x.type(0, 0, 0, 1111111111, 12345);
-        int[] two = {8, 9, 12, 12, 11, 11, 11, 12, 10, 11};
-        for (int i = 0; i < 15; i++) {
-            DUE.is("wandered less " + i, x.strokeOf(i, 1), i < 5 ? one[i] : two[i - 5]);
+        int[] leans = {8, 9, 12, 12, 11, 11, 11, 12, 10, 11};
+        for (int i = 0; i < 10; i++) {
+            Due.is("lean of " + i, x.strokeOf(i, 1), leans[i]);
         }
-        x.clear();
+        x.type(0, 0, 0, 11, 12345);
+        Due.is("begun anew", x.strokeOf(10, 1), 8);
+        Due.is("and on", x.strokeOf(11, 1), 9);
+    }
+
+    static void p28_zGoesBeyondAnInt() {
+        int[] seeds = {0, 1, -1, Integer.MIN_VALUE, Integer.MAX_VALUE, 1013904223, -1013904223, 1 << 30};
+        for (int seed : seeds) {
+            AskewLetters x = Due.with("m1;");
+            x.hand(0);
+            x.set(3, 3);
+            x.type(0, 0, 0, 111111111, seed);
+            long z = seed & 0xffffffffL;
+            for (int i = 0; i < 9; i++) {
+                // by whole numbers without an end: the lower 32 bits, then without the greatest of them
+                z = (z * 1664525 + 1013904223) % 4294967296L;
+                Due.is("lean of " + i + " by " + seed, x.strokeOf(i, 1), 10 + z % 2147483648L / 256 % 7 - 3);
+            }
+        }
+    }
+
+    static void p28_theLeanIsHeld() {
+        AskewLetters x = Due.with("m1;k8+8;k9-9;");
+        x.hand(0);
+        x.set(3, 2);
         x.type(0, 0, 0, 888999, 12345);
         // -9 by -2, -1, 2 and 8 by 2, 1, 1
         int[] held = {1, 1, 3, 19, 19, 19};
         for (int i = 0; i < 6; i++) {
-            DUE.is("held " + i, x.strokeOf(i, 1), held[i]);
+            Due.is("held " + i, x.strokeOf(i, 1), held[i]);
         }
     }
 
-    private static void typeRefusals() {
-        AskewLetters x = Due.with("m1;");
-        DUE.is("type without a hand", x.type(0, 0, 0, 1, 0), -1);
+    static void p28_theLeanIsHeldAheadOfTheDrawToo() {
+        AskewLetters x = Due.with("m1;b00@0+9;b00@0+9;b01@0-9;b01@0-9;");
         x.hand(0);
-        int[][] calls = {{1, -1, 0, 0}, {-1, 0, 0, 1}, {0, 0, 1, 0}, {0, 0, -1, 1}, {0, 366, 0, 0}, {0, 0, 0, -5},
-            {0, -1, 0, 1}, {0, 366, 0, 1}};
-        int[] dues = {-1, -1, -1, -1, -4, -4, -4, -6};
-        for (int i = 0; i < calls.length; i++) {
-            int[] c = calls[i];
-            DUE.is("type refused " + i, x.type(c[0], c[1], c[2], c[3], 0), dues[i]);
+        x.set(3, 2);
+        x.type(0, 0, 0, 1000, 12345);
+        // 9 by -2, -1 and 2, -9 by 2
+        int[] held = {17, 18, 19, 3};
+        for (int i = 0; i < 4; i++) {
+            Due.is("held " + i, x.strokeOf(i, 1), held[i]);
         }
-        DUE.is("type 10", x.type(0, 0, 0, Integer.MAX_VALUE, 0), 10);
-        DUE.is("type 20", x.type(0, 0, 0, 1000000000, 0), 20);
-        DUE.is("type 29", x.type(0, 365, 0, 999999999, 0), 29);
-        DUE.is("no room for 2", x.type(0, 0, 0, 10, 0), -6);
-        DUE.is("none of them came", x.count(2), 29);
-        DUE.is("room for 1", x.type(0, 0, 0, 9, 0), 30);
-        DUE.is("no room for 1", x.type(0, 0, 0, 1, 0), -6);
-        DUE.is("below goes ahead", x.type(0, -1, 0, 1, 0), -4);
+    }
+
+    static void p28_roomForAllOrNone() {
+        AskewLetters x = Due.with("m1;");
+        x.hand(0);
+        Due.is("type 10", x.type(0, 0, 0, Integer.MAX_VALUE, 0), 10);
+        Due.is("type 20", x.type(0, 0, 0, 1000000000, 0), 20);
+        Due.is("type 1", x.type(0, 365, 0, 1, 0), 21);
+        Due.is("no room for 10", x.type(0, 365, 0, 1000000000, 0), -6);
+        Due.is("none of them came", x.count(2), 21);
+        Due.is("room for 9", x.type(0, 365, 0, 999999999, 0), 30);
+        Due.is("no room for 1", x.type(0, 0, 0, 1, 0), -6);
+    }
+
+    static void p28_noRoomFor2Of1() {
+        AskewLetters x = Due.with("m1;");
+        x.hand(0);
+        for (int i = 0; i < 29; i++) {
+            Due.strike(x, 0);
+        }
+        Due.is("two", x.type(0, 0, 0, 10, 0), -6);
+        Due.is("none of them came", x.count(2), 29);
+        Due.is("one", x.type(0, 0, 0, 9, 0), 30);
+    }
+
+    static void p28_signsAreAbove0() {
+        AskewLetters x = Due.with("m1;");
+        x.hand(0);
+        Due.is("0", x.type(0, 0, 0, 0, 0), -4);
+        Due.is("-1", x.type(0, 0, 0, -1, 0), -4);
+        Due.is("least", x.type(0, 0, 0, Integer.MIN_VALUE, 0), -4);
+        Due.is("1", x.type(0, 0, 0, 1, 0), 1);
+    }
+
+    static void p28_theLastMachineDayAndHand() {
+        AskewLetters x = Due.with("m1;m1;m1;m1;m1;m1;b59@365+6;n59@365:3;");
+        for (int hand = 0; hand < 4; hand++) {
+            x.hand(hand * 1000000000L);
+        }
+        Due.is("type", x.type(5, 365, 3, 9, 0), 1);
+        strokeIs(x, 0, 9, 16, 8, 1, 3, 1);
     }
 }

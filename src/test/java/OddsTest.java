@@ -1,169 +1,87 @@
 /** Promises 15 to 17, 22 and 23: odds, which, many, against, need. */
 final class OddsTest {
-    private static final Due DUE = new Due("OddsTest");
-
     public static void main(String[] args) {
-        odds();
-        oddsRefusals();
-        which();
-        many();
-        against();
-        need();
-        needByAHair();
-        needOfGreatNumbers();
-        needRefusals();
-        DUE.end();
+        Due.run(OddsTest.class);
     }
 
     private static void oddsAre(AskewLetters x, int machine, long above, long below) {
-        DUE.is("odds of " + machine, x.odds(machine, 0, 0), above);
-        DUE.is("odds below the line of " + machine, x.odds(machine, 0, 1), below);
+        Due.is("odds of " + machine, x.odds(machine, 0, 0), above);
+        Due.is("odds below the line of " + machine, x.odds(machine, 0, 1), below);
     }
 
-    private static void odds() {
+    static void p15_weightTimesLikeByAllTheseTogetherInLeastTerms() {
+        AskewLetters x = Due.with("m2;m3;b10@0+1;");
+        x.set(2, 3);
+        x.stroke(0, 0, 0, 0, 0);
+        x.stroke(0, 9, 0, 0, 0);
+        // 2 by 20, 3 by 16 and 3 by 2
+        oddsAre(x, 0, 20, 47);
+        oddsAre(x, 1, 24, 47);
+        oddsAre(x, 6, 3, 47);
+    }
+
+    static void p15_ofAnEmptyPageTheWeightsAlone() {
         AskewLetters x = Due.with("m2;m3;");
         oddsAre(x, 0, 1, 5);
         oddsAre(x, 1, 3, 10);
         oddsAre(x, 6, 1, 2);
-        x.set(2, 3);
-        x.stroke(0, 0, 0, 0, 0);
-        x.stroke(0, 9, 0, 0, 0);
-        oddsAre(x, 0, 20, 53);
-        oddsAre(x, 1, 30, 53);
-        oddsAre(x, 6, 3, 53);
-        x.stroke(1, 0, 0, 0, 0);
-        // 800, 1200 and 12
-        oddsAre(x, 6, 3, 503);
+    }
+
+    static void p15_nobodysIsTimes2ForEachSignThatCounts() {
+        AskewLetters x = Due.with("m1;");
+        x.set(1, 0);
+        x.set(2, 1);
+        long[] dues = {2, 4, 8, 16, 32, 32, 32};
+        oddsAre(x, 6, 1, 2);
+        for (int i = 0; i < dues.length; i++) {
+            Due.strike(x, i, i);
+            oddsAre(x, 6, dues[i], dues[i] + 1);
+        }
+    }
+
+    static void p15_nobody0Is0By1() {
+        AskewLetters x = Due.with("m2;m3;");
         x.set(2, 0);
+        x.stroke(0, 0, 0, 0, 0);
         oddsAre(x, 6, 0, 1);
         oddsAre(x, 0, 2, 5);
-        AskewLetters y = new AskewLetters();
-        oddsAre(y, 6, 1, 1);
-        for (int sign = 0; sign < 10; sign++) {
-            y.stroke(sign, 0, 0, 0, 0);
-        }
-        oddsAre(y, 6, 1, 1);
-        Due.bookOf(y, "m1;");
-        // 5 signs count: 3200000 against 5 times 32
-        oddsAre(y, 6, 1, 20001);
     }
 
-    private static void oddsRefusals() {
-        AskewLetters x = Due.with("m2;m3;");
-        int[][] calls = {{-1, 0, 0}, {2, -1, 2}, {5, 0, 0}, {7, 0, 0}, {0, -1, 2}, {6, 366, -1}, {0, -1, 0}, {6, 366, 1}};
-        int[] dues = {-1, -1, -1, -1, -2, -2, -4, -6};
-        for (int i = 0; i < calls.length; i++) {
-            int[] c = calls[i];
-            DUE.is("odds refused " + i, x.odds(c[0], c[1], c[2]), Due.far(dues[i]));
-        }
-        AskewLetters y = new AskewLetters();
-        y.set(2, 0);
-        DUE.is("all are 0", y.odds(6, 0, 0), Due.far(-3));
-        DUE.is("all are 0, part 2", y.odds(6, 0, 2), Due.far(-2));
-        DUE.is("all are 0, day 366", y.odds(6, 366, 0), Due.far(-6));
-        DUE.is("which, all are 0", y.which(365), -3);
-        DUE.is("which -1", y.which(-1), -4);
-        DUE.is("which 366", y.which(366), -6);
-        DUE.is("refusals -3", y.count(13), 2);
-    }
-
-    private static void which() {
-        AskewLetters x = Due.with("m2;m3;b00@100+4;");
-        DUE.is("which, nobody's", x.which(0), 6);
-        x.set(2, 3);
-        DUE.is("which, of equals the least", x.which(0), 1);
-        x.set(2, 2);
-        DUE.is("which, machine 1", x.which(0), 1);
-        x.stroke(0, 4, 0, 0, 0);
-        DUE.is("which on 99", x.which(99), 1);
-        DUE.is("which on 100", x.which(100), 0);
-        AskewLetters y = new AskewLetters();
-        DUE.is("which without machines", y.which(0), 6);
-    }
-
-    private static void many() {
-        AskewLetters x = Due.with("m1;m1;b10@50+5;n11@60:0;n11@60:1;");
-        DUE.is("many of an empty page", x.many(50), 2);
-        x.stroke(0, 0, 0, 0, 0);
-        DUE.is("many on 49", x.many(49), 2);
-        DUE.is("many on 50", x.many(50), 1);
-        x.set(0, 5);
-        DUE.is("many by slip 5", x.many(50), 2);
-        x.stroke(0, 9, 15, 0, 0);
-        DUE.is("a stroke that does not count", x.many(50), 2);
-        x.stroke(1, 0, 1, 0, 0);
-        DUE.is("nicks on 59", x.many(59), 0);
-        DUE.is("nicks on 60", x.many(60), 1);
-        x.set(0, 4);
-        DUE.is("nicks alike, lean is not", x.many(60), 0);
-        x.clear();
-        x.stroke(0, 9, 0, 0, 0);
-        DUE.is("many of a lean that is off by 4", x.many(365), 1);
-        DUE.is("many -1", x.many(-1), -4);
-        DUE.is("many 366", x.many(366), -6);
-        DUE.is("many without machines", new AskewLetters().many(365), 0);
-    }
-
-    private static void against() {
-        AskewLetters x = Due.with("m1;");
-        DUE.is("against of an empty page", x.against(0, 0), -9);
-        x.stroke(0, 0, 0, 0, 0);
-        x.stroke(0, 9, 15, 0, 0);
-        x.stroke(1, 4, 0, 0, 0);
-        x.stroke(2, 4, 0, 5, 0);
-        DUE.is("against, the first of two", x.against(0, 0), 2);
-        x.set(1, 8);
-        DUE.is("against by dirt", x.against(0, 0), 3);
-        x.set(1, 4);
-        DUE.is("against by nicks, all alike", x.against(0, 0), 0);
-        x.set(1, 6);
-        x.stroke(3, 0, 0, 0, 0);
-        x.stroke(4, 0, 0, 0, 0);
-        x.stroke(5, 9, 15, 13, 9);
-        DUE.is("the sixth sign does not count", x.against(0, 0), 2);
-        DUE.is("against of nobody", x.against(1, -1), -1);
-        DUE.is("against -1", x.against(0, -1), -4);
-        DUE.is("against 366", x.against(0, 366), -6);
+    static void p15_nobody99AndWeight99() {
+        AskewLetters x = Due.with("m99;");
+        x.set(2, 99);
+        oddsAre(x, 0, 1, 2);
+        oddsAre(x, 6, 1, 2);
         AskewLetters y = Due.with("m1;");
-        DUE.is("refused ahead of -9", y.against(0, 366), -6);
+        y.set(2, 99);
+        oddsAre(y, 0, 1, 100);
+        oddsAre(y, 6, 99, 100);
     }
 
-    private static void need() {
-        AskewLetters x = Due.with("m1;m1;");
-        Due.bookOf(x, "b10@0+4;");
-        DUE.is("need of an empty page", x.need(0, 0, 0), -9);
-        x.stroke(5, 0, 0, 0, 0);
-        x.stroke(5, 9, 0, 0, 0);
-        x.stroke(0, 0, 0, 0, 0);
-        x.stroke(1, 0, 0, 0, 0);
-        // by 1: 20, 20 and 10; by 3: 400, 80 and 20; by 4: 8000, 1600 and 40
-        DUE.is("need 0", x.need(0, 0, 0), 1);
-        DUE.is("need 40", x.need(0, 0, 40), 1);
-        DUE.is("need 41", x.need(0, 0, 41), 3);
-        DUE.is("need 80", x.need(0, 0, 80), 3);
-        DUE.is("need 81", x.need(0, 0, 81), 4);
-        DUE.is("need 82", x.need(0, 0, 82), 4);
-        DUE.is("need 83", x.need(0, 0, 83), -9);
-        DUE.is("need 84", x.need(0, 0, 84), -9);
-        DUE.is("need 100", x.need(0, 0, 100), -9);
-        DUE.is("need of machine 1", x.need(1, 0, 40), 1);
-        DUE.is("need of machine 1, more", x.need(1, 0, 41), -9);
+    static void p15_withoutMachinesNobodysIs1By1() {
+        AskewLetters x = new AskewLetters();
+        oddsAre(x, 6, 1, 1);
+        Due.strike(x, 0, 1, 2);
+        oddsAre(x, 6, 1, 1);
     }
 
-    private static void needByAHair() {
-        for (int weight = 1; weight <= 99; weight++) {
-            AskewLetters x = Due.with("m" + weight + ";");
-            x.set(1, 0);
-            x.set(2, 1);
-            x.stroke(0, 0, 0, 0, 0);
-            for (int hundredths = 0; hundredths <= 100; hundredths++) {
-                boolean has = 100 * weight >= hundredths * (weight + 2);
-                DUE.is("need " + hundredths + " by " + weight, x.need(0, 365, hundredths), has ? 1 : -9);
-            }
-        }
+    static void p15_ofSixMachinesTheLastOnTheLastDay() {
+        AskewLetters x = Due.with("m1;m1;m1;m1;m1;m1;b50@365+4;");
+        x.stroke(0, 4, 0, 0, 0);
+        // five by 4, one by 20, nobody's 10
+        Due.is("above on 365", x.odds(5, 365, 0), 2);
+        Due.is("below on 365", x.odds(5, 365, 1), 5);
+        Due.is("above on 364", x.odds(5, 364, 0), 2);
+        Due.is("below on 364", x.odds(5, 364, 1), 17);
     }
 
-    private static void needOfGreatNumbers() {
+    static void p15_ofTheGreatestNumbers() {
+        AskewLetters x = great();
+        oddsAre(x, 3, 1, 4);
+        oddsAre(x, 6, 0, 1);
+    }
+
+    private static AskewLetters great() {
         AskewLetters x = Due.with("m99;m99;m99;m99;");
         x.set(0, 8);
         x.set(1, 31);
@@ -176,20 +94,304 @@ final class OddsTest {
         for (int sign = 0; sign < 5; sign++) {
             x.stroke(sign, 1, 0, 0, 0);
         }
-        DUE.is("like of great numbers", x.like(3, 0), 972L * 972 * 972 * 972 * 972);
-        oddsAre(x, 3, 1, 4);
-        DUE.is("need a quarter", x.need(3, 0, 25), 1);
-        for (int hundredths = 26; hundredths <= 100; hundredths++) {
-            DUE.is("need " + hundredths, x.need(3, 0, hundredths), -9);
+        return x;
+    }
+
+    static void p15_allAre0Only() {
+        AskewLetters x = new AskewLetters();
+        x.set(2, 0);
+        Due.is("no machine, nobody 0", x.odds(6, 0, 0), 4000000000000000003L);
+        Due.is("nor below the line", x.odds(6, 365, 1), 4000000000000000003L);
+        x.set(2, 1);
+        oddsAre(x, 6, 1, 1);
+        x.set(2, 0);
+        Due.bookOf(x, "m1;");
+        oddsAre(x, 0, 1, 1);
+        oddsAre(x, 6, 0, 1);
+    }
+
+    static void p16_theMachineWithTheGreatest() {
+        AskewLetters x = Due.with("m2;m3;b00@100+4;");
+        x.set(2, 2);
+        x.stroke(0, 4, 0, 0, 0);
+        Due.is("which on 99", x.which(99), 1);
+        Due.is("which on 100", x.which(100), 0);
+        Due.is("which on 365", x.which(365), 0);
+    }
+
+    static void p16_sixIsNobodys() {
+        AskewLetters x = Due.with("m2;m3;");
+        x.set(2, 4);
+        Due.is("which", x.which(0), 6);
+        Due.is("which without machines", new AskewLetters().which(0), 6);
+    }
+
+    static void p16_ofSeveralTheLeast() {
+        AskewLetters x = Due.with("m2;m3;m3;m3;m3;m1;");
+        x.set(2, 3);
+        Due.is("of machines 1 to 4 and nobody's", x.which(0), 1);
+        AskewLetters y = Due.with("m1;m1;m1;m1;m1;m9;");
+        y.set(2, 9);
+        Due.is("of machine 5 and nobody's", y.which(0), 5);
+        AskewLetters z = Due.with("m9;m9;");
+        z.set(2, 0);
+        Due.is("of machines 0 and 1", z.which(0), 0);
+    }
+
+    static void p16_allAre0() {
+        AskewLetters x = new AskewLetters();
+        x.set(2, 0);
+        Due.is("no machine, nobody 0", x.which(0), -3);
+        x.set(2, 1);
+        Due.is("nobody 1", x.which(0), 6);
+    }
+
+    static void p17_everyLeanWithinSlip() {
+        AskewLetters x = Due.with("m1;m1;b10@50+5;");
+        x.stroke(0, 0, 0, 0, 0);
+        int[] slips = {0, 4, 5, 8};
+        int[] dues = {1, 1, 2, 2};
+        for (int i = 0; i < slips.length; i++) {
+            x.set(0, slips[i]);
+            Due.is("many by " + slips[i] + " on 49", x.many(49), 2);
+            Due.is("many by " + slips[i] + " on 50", x.many(50), dues[i]);
         }
     }
 
-    private static void needRefusals() {
+    static void p17_withinSlipUpAndDown() {
         AskewLetters x = Due.with("m1;");
-        int[][] calls = {{1, -1, 101}, {-1, 0, 0}, {0, -1, 101}, {0, 366, -1}, {0, 366, 0}, {0, 0, 101}};
-        int[] dues = {-1, -1, -4, -4, -6, -6};
-        for (int i = 0; i < calls.length; i++) {
-            DUE.is("need refused " + i, x.need(calls[i][0], calls[i][1], calls[i][2]), dues[i]);
+        for (int lean = -9; lean <= 9; lean++) {
+            x.clear();
+            x.stroke(0, lean, 0, 0, 0);
+            Due.is("many of " + lean, x.many(0), Math.abs(lean) <= 4 ? 1 : 0);
+        }
+    }
+
+    static void p17_everyLeanNotOne() {
+        AskewLetters x = Due.with("m1;m1;b10@0+5;b01@0+5;");
+        x.stroke(0, 0, 0, 0, 0);
+        Due.is("of one sign", x.many(0), 1);
+        x.stroke(1, 0, 0, 0, 0);
+        Due.is("of two signs", x.many(0), 0);
+    }
+
+    static void p17_withAllNicksThatWereMeasured() {
+        AskewLetters x = Due.with("m1;m1;n11@60:0;n11@60:2;");
+        int[] nicks = {0, 1, 4, 5, 2, 3, 7, 15};
+        int[] dues = {2, 1, 1, 1, 0, 0, 0, 0};
+        for (int i = 0; i < nicks.length; i++) {
+            x.clear();
+            x.stroke(1, 0, nicks[i], 0, 0);
+            Due.is("many of " + nicks[i] + " on 59", x.many(59), nicks[i] == 0 ? 2 : 0);
+            Due.is("many of " + nicks[i] + " on 60", x.many(60), dues[i]);
+        }
+    }
+
+    static void p17_bothLeanAndNicks() {
+        AskewLetters x = Due.with("m1;m1;n00@0:0;b00@0+5;");
+        x.stroke(0, 0, 1, 0, 0);
+        Due.is("nicks of one, lean of the other", x.many(0), 0);
+        x.set(0, 5);
+        Due.is("by more slip", x.many(0), 1);
+    }
+
+    static void p17_ofStrokesThatCount() {
+        AskewLetters x = Due.with("m1;");
+        Due.strike(x, 0, 1, 2, 3);
+        x.stroke(0, 9, 15, 0, 0);
+        Due.is("a second one of a sign", x.many(0), 1);
+        x.stroke(4, 0, 0, 0, 0);
+        x.stroke(5, 9, 15, 0, 0);
+        Due.is("the sixth sign", x.many(0), 1);
+        x.clear();
+        Due.strike(x, 0, 1, 2, 3);
+        x.stroke(4, 9, 0, 0, 0);
+        Due.is("the fifth sign", x.many(0), 0);
+    }
+
+    static void p17_whateverIsUsedDirtAndForce() {
+        AskewLetters x = Due.with("m1;");
+        x.set(1, 0);
+        x.stroke(0, 0, 0, 13, 9);
+        Due.is("dirt and force", x.many(0), 1);
+        x.stroke(1, 5, 0, 0, 0);
+        Due.is("lean", x.many(0), 0);
+    }
+
+    static void p17_ofAnEmptyPageAllOfNoMachinesNone() {
+        AskewLetters x = Due.with("m1;m1;m1;m1;m1;m1;");
+        Due.is("many of an empty page", x.many(0), 6);
+        Due.is("many on the last day", x.many(365), 6);
+        Due.is("many without machines", new AskewLetters().many(365), 0);
+    }
+
+    static void p22_theStrokeWithTheLeastProductOfItsFactors() {
+        AskewLetters x = Due.with("m1;");
+        x.stroke(0, 0, 0, 0, 0);
+        x.stroke(1, 3, 0, 0, 0);
+        // 2 by 4 and 5 by 1
+        x.stroke(2, 0, 1, 0, 0);
+        Due.is("against", x.against(0, 0), 2);
+        x.stroke(3, 4, 0, 0, 0);
+        Due.is("against, 1 by 4", x.against(0, 0), 3);
+        x.stroke(4, 4, 1, 0, 0);
+        Due.is("against, 1 by 1", x.against(0, 0), 4);
+    }
+
+    static void p22_ofSeveralTheFirst() {
+        AskewLetters x = Due.with("m1;");
+        Due.strike(x, 5, 6, 7);
+        Due.is("all alike", x.against(0, 0), 0);
+        x.clear();
+        x.stroke(0, 0, 0, 0, 0);
+        x.stroke(1, 4, 0, 0, 0);
+        x.stroke(2, -4, 0, 0, 0);
+        Due.is("two of three", x.against(0, 0), 1);
+    }
+
+    static void p22_thatCounts() {
+        AskewLetters x = Due.with("m1;");
+        x.stroke(0, 0, 0, 0, 0);
+        x.stroke(0, 9, 15, 0, 0);
+        Due.is("a second one of a sign", x.against(0, 0), 0);
+        x.stroke(1, 1, 0, 0, 0);
+        Due.strike(x, 2, 3, 4);
+        x.stroke(5, 9, 15, 0, 0);
+        Due.is("the sixth sign", x.against(0, 0), 2);
+        x.clear();
+        Due.strike(x, 0, 1, 2, 3);
+        x.stroke(4, 1, 0, 0, 0);
+        Due.is("the fifth sign", x.against(0, 0), 4);
+    }
+
+    static void p22_byKindsThatAreUsed() {
+        AskewLetters x = Due.with("m1;b03@0+1;");
+        x.stroke(0, 1, 0, 0, 0);
+        x.stroke(1, 0, 1, 0, 0);
+        x.stroke(2, 0, 0, 5, 0);
+        x.stroke(3, 1, 0, 0, 0);
+        int[] used = {0, 1, 2, 4, 8, 16, 6, 10, 12, 14, 18};
+        int[] dues = {0, 0, 0, 1, 2, 0, 1, 2, 1, 1, 0};
+        for (int i = 0; i < used.length; i++) {
+            x.set(1, used[i]);
+            Due.is("against by " + used[i], x.against(0, 0), dues[i]);
+        }
+    }
+
+    static void p22_onTheDay() {
+        AskewLetters x = Due.with("m1;b00@365+1;");
+        x.stroke(1, 1, 0, 0, 0);
+        x.stroke(0, 2, 0, 0, 0);
+        Due.is("against on 364", x.against(0, 364), 1);
+        Due.is("against on 365", x.against(0, 365), 0);
+    }
+
+    static void p22_minus9ThePageIsEmpty() {
+        AskewLetters x = Due.with("m1;");
+        Due.is("against", x.against(0, 0), -9);
+        Due.is("of nobody", x.against(1, 0), -1);
+        Due.is("below", x.against(0, -1), -4);
+        Due.is("above", x.against(0, 366), -6);
+        x.stroke(0, 0, 0, 0, 0);
+        x.clear();
+        Due.is("against a cleared one", x.against(0, 0), -9);
+    }
+
+    private static AskewLetters twoMachines() {
+        AskewLetters x = Due.with("m1;m1;b10@0+4;");
+        x.stroke(5, 0, 0, 0, 0);
+        x.stroke(5, 9, 0, 0, 0);
+        x.stroke(0, 0, 0, 0, 0);
+        x.stroke(1, 0, 0, 0, 0);
+        return x;
+    }
+
+    static void p23_theLeastNOfFirstStrokes() {
+        AskewLetters x = twoMachines();
+        // by 1 and 2: 20, 20 and 10; by 3: 400, 80 and 20; by 4: 8000, 1600 and 40
+        int[] hundredths = {0, 40, 41, 80, 81, 82};
+        int[] dues = {1, 1, 3, 3, 4, 4};
+        for (int i = 0; i < hundredths.length; i++) {
+            Due.is("need " + hundredths[i], x.need(0, 0, hundredths[i]), dues[i]);
+        }
+        Due.is("need of machine 1", x.need(1, 0, 40), 1);
+    }
+
+    static void p23_minus9IfNoNIsEnough() {
+        AskewLetters x = twoMachines();
+        Due.is("need 83", x.need(0, 0, 83), -9);
+        Due.is("need 100", x.need(0, 0, 100), -9);
+        Due.is("need of machine 1", x.need(1, 0, 41), -9);
+    }
+
+    static void p23_minus9WithoutStrokes() {
+        AskewLetters x = Due.with("m1;");
+        Due.is("need 0", x.need(0, 0, 0), -9);
+        x.set(2, 0);
+        Due.is("need 100", x.need(0, 0, 100), -9);
+    }
+
+    static void p23_exactlySoManyHundredthsAreEnough() {
+        for (int weight = 1; weight <= 99; weight++) {
+            AskewLetters x = Due.with("m" + weight + ";");
+            x.set(1, 0);
+            x.set(2, 1);
+            x.stroke(0, 0, 0, 0, 0);
+            for (int hundredths = 0; hundredths <= 100; hundredths++) {
+                boolean has = 100 * weight >= hundredths * (weight + 2);
+                Due.is("need " + hundredths + " by " + weight, x.need(0, 365, hundredths), has ? 1 : -9);
+            }
+        }
+    }
+
+    static void p23_a100OfTheOdds() {
+        AskewLetters x = Due.with("m1;");
+        x.set(2, 0);
+        x.stroke(0, 9, 15, 0, 0);
+        Due.is("alone", x.need(0, 0, 100), 1);
+        x.set(2, 1);
+        Due.is("with nobody's", x.need(0, 0, 100), -9);
+    }
+
+    static void p23_onTheDay() {
+        AskewLetters x = Due.with("m1;b00@365+4;");
+        x.set(2, 1);
+        x.stroke(0, 4, 0, 0, 0);
+        // 4 and 2, then 20 and 2
+        Due.is("need on 364", x.need(0, 364, 67), -9);
+        Due.is("need on 365", x.need(0, 365, 67), 1);
+    }
+
+    static void p23_theOddsMayFallAgain() {
+        AskewLetters x = Due.with("m1;m1;b11@0+4;");
+        x.stroke(0, 0, 0, 0, 0);
+        x.stroke(1, 4, 0, 0, 0);
+        // 20, 20 and 10; then 80, 400 and 20
+        Due.is("need of machine 0", x.need(0, 0, 40), 1);
+        Due.is("need of machine 1", x.need(1, 0, 80), 2);
+        Due.is("more than it ever has", x.need(0, 0, 41), -9);
+    }
+
+    static void p23_theLastOfThirtyStrokes() {
+        AskewLetters x = Due.with("m1;");
+        x.set(2, 1);
+        for (int i = 0; i < 29; i++) {
+            x.stroke(0, 0, 1, 0, 0);
+        }
+        x.stroke(1, 0, 0, 0, 0);
+        // 5 by 7, then 100 by 104
+        Due.is("need 71", x.need(0, 0, 71), 1);
+        Due.is("need 72", x.need(0, 0, 72), 30);
+        Due.is("need 96", x.need(0, 0, 96), 30);
+        Due.is("need 97", x.need(0, 0, 97), -9);
+    }
+
+    static void p23_ofTheGreatestNumbers() {
+        AskewLetters x = great();
+        Due.is("need 0", x.need(3, 0, 0), 1);
+        Due.is("need 25", x.need(3, 0, 25), 1);
+        for (int hundredths = 26; hundredths <= 100; hundredths++) {
+            Due.is("need " + hundredths, x.need(3, 0, hundredths), -9);
         }
     }
 }
