@@ -135,6 +135,21 @@ final class HandTest {
         Due.is("pale", x.pale(), 1);
     }
 
+    static void p27_theMeanOfFewAndOfMany() {
+        AskewLetters x = new AskewLetters();
+        x.stroke(0, 0, 0, 0, 2);
+        x.stroke(1, 0, 0, 0, 2);
+        x.stroke(1, 0, 0, 0, 2);
+        x.stroke(1, 0, 0, 0, 3);
+        // 2 by 1 and 7 by 3
+        Due.is("pale of few", x.pale(), 0);
+        x.stroke(2, 0, 0, 0, 1);
+        x.stroke(2, 0, 0, 0, 1);
+        x.stroke(2, 0, 0, 0, 3);
+        // 5 by 3
+        Due.is("pale of many", x.pale(), 2);
+    }
+
     static void p27_ofSeveralTheLeast() {
         AskewLetters x = new AskewLetters();
         x.stroke(7, 0, 0, 0, 1);

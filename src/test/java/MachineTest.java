@@ -70,6 +70,21 @@ final class MachineTest {
         leansAre(x, 1, 4, new int[] {0, 1}, new int[] {-2, -2});
     }
 
+    static void p04_eventsOfOthersToldFromTheLastDayToTheFirst() {
+        AskewLetters x = Due.with("m1;m1;b00@50+1;b11@40+2;n02@30:3;b12@20+4;s10@10;", "b03@45+5;b13@5-6;");
+        int[][] machines = {{0, 0, 0, 0, 1, 1, 1, 1}, {0, 1, 2, 3, 0, 1, 2, 3}};
+        int[] leans = {1, 0, 0, 5, 0, 2, 4, -6};
+        int[] days = {50, 0, 0, 45, 0, 40, 20, 5};
+        for (int i = 0; i < leans.length; i++) {
+            int day = days[i];
+            leansAre(x, machines[0][i], machines[1][i], new int[] {day == 0 ? 0 : day - 1, day, 365}, new int[] {0, leans[i], leans[i]});
+        }
+        Due.is("nicks on 29", x.nicks(0, 2, 29), 0);
+        Due.is("nicks on 30", x.nicks(0, 2, 30), 8);
+        Due.is("nicks of another sign", x.nicks(0, 0, 365), 0);
+        Due.is("nicks of another machine", x.nicks(1, 2, 365), 0);
+    }
+
     static void p04_theLastMachineAndTheLastSign() {
         AskewLetters x = Due.with("m1;m1;m1;m1;m1;m1;b59@365-7;");
         leansAre(x, 5, 9, new int[] {364, 365}, new int[] {0, -7});

@@ -167,6 +167,20 @@ final class OddsTest {
         }
     }
 
+    static void p17_withinSlipOfAMachineThatLeans() {
+        AskewLetters x = Due.with("m1;k0+7;k1-7;");
+        x.stroke(0, 9, 0, 0, 0);
+        Due.is("both up", x.many(0), 1);
+        x.stroke(1, -3, 0, 0, 0);
+        Due.is("both down, off by 4", x.many(0), 1);
+        x.clear();
+        x.stroke(1, -2, 0, 0, 0);
+        Due.is("both down, off by 5", x.many(0), 0);
+        x.clear();
+        x.stroke(0, -7, 0, 0, 0);
+        Due.is("up and down", x.many(0), 0);
+    }
+
     static void p17_everyLeanNotOne() {
         AskewLetters x = Due.with("m1;m1;b10@0+5;b01@0+5;");
         x.stroke(0, 0, 0, 0, 0);
@@ -340,6 +354,21 @@ final class OddsTest {
             for (int hundredths = 0; hundredths <= 100; hundredths++) {
                 boolean has = 100 * weight >= hundredths * (weight + 2);
                 Due.is("need " + hundredths + " by " + weight, x.need(0, 365, hundredths), has ? 1 : -9);
+            }
+        }
+    }
+
+    static void p23_oneHundredthLacksByTheLeast() {
+        AskewLetters x = Due.with("m1;");
+        x.set(1, 0);
+        x.stroke(0, 0, 0, 0, 0);
+        // nobody's is twice its weight
+        int[] nobody = {49, 50, 99};
+        int[][] dues = {{1, -9, -9}, {-9, -9, -9}, {-9, -9, -9}};
+        for (int i = 0; i < nobody.length; i++) {
+            x.set(2, nobody[i]);
+            for (int hundredths = 1; hundredths <= 3; hundredths++) {
+                Due.is("need " + hundredths + " by " + nobody[i], x.need(0, 0, hundredths), dues[i][hundredths - 1]);
             }
         }
     }
