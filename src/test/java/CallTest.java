@@ -24,8 +24,8 @@ import javax.tools.ToolProvider;
 final class CallTest {
     private static final String OWN = "AskewLetters";
     private static final int DEEPEST = 8;
-    private static final Set<String> LIBRARY = Set.of("java.lang.Math.max", "java.lang.Math.min", "java.lang.Math.abs",
-        "java.lang.System.arraycopy");
+    private static final String LIBRARY = "java\\.lang\\.(Math|Integer|Long)\\.(compare|max|min|abs|bitCount|floorDiv|floorMod)"
+        + "|java\\.lang\\.System\\.arraycopy|java\\.util\\.Arrays\\.(copyOf|copyOfRange|fill)";
 
     /** What each method of the class calls, by full names. */
     private static final Map<String, Set<String>> CALLS = new HashMap<>();
@@ -99,7 +99,7 @@ final class CallTest {
             for (String called : each.getValue()) {
                 if (!called.startsWith(OWN)) {
                     seen++;
-                    Due.holds(called + " in " + each.getKey() + " is of the library", LIBRARY.contains(called));
+                    Due.holds(called + " in " + each.getKey() + " is of the library", called.matches(LIBRARY));
                 }
             }
         }
